@@ -1058,7 +1058,11 @@ public final class GlassRoom {
                     return false;
                 }
                 tape.at++;
-                return readSum(depth + 1) && tape.take(']');
+                if (!readSum(depth + 1) || tape.look() != ']') {
+                    return false;
+                }
+                tape.at++;
+                return true;
             }
             int letter = LETTERS.indexOf((char) sign);
             if (letter >= 0) {
