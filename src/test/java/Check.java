@@ -1,9 +1,44 @@
-/** What the tests share: feeding texts, comparing answers, the exit code. */
+import java.io.IOException;
+import java.nio.file.Files;
+import java.nio.file.Path;
+
+/** What the tests share: feeding texts, comparing answers, the document's words, the exit code. */
 final class Check {
+    static final int LOW = Integer.MIN_VALUE;
+    static final int HIGH = Integer.MAX_VALUE;
+
+    private static final Path DOCUMENT = Path.of("../shared/DOC.md");
+
     private static int wrong = 0;
     private static int compared = 0;
+    private static String words = "";
+    private static String document;
 
     private Check() {
+    }
+
+    /** The document's own words, by which the answers behind it are due; they must stand there. */
+    static void by(String quoted) {
+        words = quoted;
+        if (document == null) {
+            document = readDocument();
+        }
+        if (!document.isEmpty()) {
+            due("the document has these words", document.contains(plain(quoted)), true);
+        }
+    }
+
+    private static String readDocument() {
+        try {
+            return plain(Files.readString(DOCUMENT));
+        } catch (IOException e) {
+            System.out.println("no " + DOCUMENT + " here: the tests' quotations were not looked up in it");
+            return "";
+        }
+    }
+
+    private static String plain(String text) {
+        return text.replaceAll("\\s+", " ");
     }
 
     static void due(String what, long got, long want) {
@@ -11,7 +46,8 @@ final class Check {
         if (got != want) {
             wrong++;
             if (wrong <= 50) {
-                System.out.println(what + " answered " + got + ", due is " + want);
+                String by = words.isEmpty() ? "" : "by \"" + words + "\": ";
+                System.out.println(by + what + " answered " + got + ", due is " + want);
             }
         }
     }
@@ -54,6 +90,31 @@ final class Check {
     static int addLight(GlassRoom room, String light) {
         feed(room, light);
         return room.text(1);
+    }
+
+    /** The fault of a text that comes to a new object. */
+    static int faultOf(int sort, String text) {
+        GlassRoom room = new GlassRoom();
+        feed(room, text);
+        return room.fault(sort);
+    }
+
+    /** That text refuses just what has a fault, and leaves it on the tape then, is asked along with it. */
+    static void faultIs(int sort, String text, int fault) {
+        GlassRoom room = new GlassRoom();
+        int length = feed(room, text);
+        due("fault " + sort + " of '" + text + "'", room.fault(sort), fault);
+        due("fault " + sort + " of '" + text + "', asked twice", room.fault(sort), fault);
+        boolean taken = room.text(sort) != GlassRoom.NONE;
+        due("text " + sort + " takes '" + text + "'", taken, fault == GlassRoom.NONE);
+        due("tape behind text of '" + text + "'", room.count(6), taken ? 0 : length);
+    }
+
+    /** Texts and their faults in turn. */
+    static void faultsAre(int sort, Object... table) {
+        for (int k = 0; k + 1 < table.length; k += 2) {
+            faultIs(sort, (String) table[k], (Integer) table[k + 1]);
+        }
     }
 
     static boolean bodyThrows(GlassRoom room, int body, int what) {
