@@ -198,6 +198,12 @@ public final class ActsBoundaryTest {
     }
 
     private static void eachStepIsAnAct() {
+        Check.by("By hand BODIES move, GLASS is changed; STEPS (1 .. 40) by a seed");
+        GlassRoom hand = Check.room(PAIR);
+        due("a move alone", hand.move(1, 4, 3), 1);
+        due("glass stays", hand.count(3), 15);
+        due("glass alone", hand.glass(2), 2);
+        standsAt(hand, 1, 4, 3);
         Check.by("All of these are ACTS (each STEP one)");
         GlassRoom room = Check.room(PAIR);
         due("a move", room.move(0, 2, 2), 1);

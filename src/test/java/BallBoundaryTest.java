@@ -76,7 +76,7 @@ public final class BallBoundaryTest {
                 hitIs(room, r);
             }
         }
-        Check.by("(of several at one place that with the fewest GLASSES, then by i, j)");
+        Check.by("(of several at one place that with the fewest GLASSES, then by i, j): by how many cushions (its GLASSES), i, j.");
         GlassRoom wall = Check.room("rw4h3;bx2y1;bx0y1;bx4y1;bx0y0;bx4y3");
         int[][] rows = {{0, -1, 0, 1, 0, 0, 0}, {0, 1, 0, 1, 1, 1, 0}, {0, 1, 0, 2, 0, 0, 0}, {0, -1, 0, 2, 1, -1, 0},
             {0, -2, -1, 3, 0, 0, 0}, {0, 1, 1, 4, 0, 0, 0}, {3, 4, 3, 4, 0, 0, 0}, {4, -4, -3, 3, 0, 0, 0}, {3, 4, 3, 3, 2, 1, 1}};
@@ -286,7 +286,9 @@ public final class BallBoundaryTest {
     // ---- two glasses
 
     private static void hinge() {
-        Check.by("(before 0: above 0, below 180; before a: above a less 180, below a; all round 360)");
+        Check.by("rows of IMAGES from the first glass (at 0), from the other (at a): at p first; thrown back by 0 it stands at "
+                + "its number turned round (0 less it), by a at twice a less it; by both in turn, as long as it lies before the "
+                + "glass that comes next (before 0: above 0, below 180; before a: above a less 180, below a; all round 360).");
         // 50, 20: 340 120 240 220, and 80 280 180, which is not below 180. 100, 80: 280, which is not above -80; 120 240.
         int[][] rows = {{50, 20, 7, 4}, {50, 21, 8, 4}, {50, 19, 7, 4}, {50, 30, 7, 4}, {50, 29, 8, 4}, {50, 31, 7, 4}, {100, 80, 3, 2},
             {100, 79, 4, 2}, {100, 81, 3, 2}, {100, 20, 3, 2}, {100, 21, 4, 2}, {120, 60, 2, 2}, {120, 59, 3, 2}, {120, 61, 3, 2},

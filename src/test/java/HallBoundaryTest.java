@@ -81,7 +81,7 @@ public final class HallBoundaryTest {
     }
 
     private static void feedOrder() {
-        Check.by("(of each number the highest first; bytes of 0 are left out)");
+        Check.by("(of each number the highest first; bytes of 0 are left out): how many it has.");
         GlassRoom room = new GlassRoom();
         due("bx3y, 2a0;, b, none, none", room.feed(0x62783379, 0x3261303b, 0x62000000, 0, 0), 9);
         due("two bodies", room.text(0), 2);
